@@ -95,6 +95,10 @@ public final class PromisesTest {
         due("2 type(1) 41", x.type(1, '1'), FULL);
         due("2 count(2)", x.count(2), 55);
         due("2 count(3)", x.count(3), 40);
+        TownBagpipes y = town(".a9r", "0");
+        due("2 what was asked", y.got(0, 0, 0), 4);
+        Checks.typeAll(y, 0, ";.a9r");
+        due("2 is asked anew behind a byte", y.bag(0, 0), 22);
     }
 
     // 3
@@ -105,6 +109,7 @@ public final class PromisesTest {
         due("3 wipe(0)", x.wipe(0), 4);
         due("3 wipe(0) again", x.wipe(0), 0);
         due("3 houses", x.count(0), 0);
+        due("3 an empty text is well", x.fault(0), NONE);
         due("3 elbows stay", x.elbows(1), 2);
         due("3 wipe(1)", x.wipe(1), 2);
         due("3 elbows(1)", x.elbows(1), 3);
@@ -294,6 +299,9 @@ public final class PromisesTest {
         due("12 those of the sheet alone", x.count(5), 2);
         due("12 not the earlier one", x.got(5, 0, 0), 2);
         due("12 pinched", x.got(0, 0, 0), 0);
+        items(x, 0, 2, 2, 0);
+        due("12 read anew", x.read(0), 1);
+        due("12 no longer pinched", x.got(0, 0, 0), 2);
         items(x, 1, 1, 1, 0, 40, 0, 2, 0);
         due("12 as long as each may be: hour", x.read(1), 1);
         items(x, 1, 0, 1, 0, 2, 0, 3, 8, 4, 0);
@@ -356,6 +364,9 @@ public final class PromisesTest {
         z.set(0, 5);
         due("13 the bag first", z.got(0, 0, 0), 4);
         due("13 what is in the bag", z.got(0, 1, 0), 1);
+        String chain = ";aa9s;ba9s;ca9s;da9s;ea9s;fa9s;ga9s";
+        due("13 eight on one pipe", town(".a8s" + chain, "").bag(0, 3), 0);
+        due("13 the eighth is short by the first's pipe", town(".a7s" + chain, "").bag(0, 3), 128);
     }
 
     // 14
@@ -407,6 +418,8 @@ public final class PromisesTest {
         x.set(0, 10);
         due("16 first", x.first(), 5);
         due("17 quiet", x.quiet(), 4);
+        x.set(0, 0);
+        due("17 at once", x.quiet(), 0);
         TownBagpipes y = town(".a9s", "");
         due("16 none", y.first(), NONE);
         due("17 none", y.quiet(), NONE);
@@ -607,6 +620,27 @@ public final class PromisesTest {
         x.forget();
         x.pinch(2, 0);
         due("28 pinched then: the next one", x.ask(0), 5);
+        TownBagpipes y = town(".a9s;ab9r;ac9wr", "");
+        // House 0 takes 1, house 1 up to 4, house 2 what its pipe still lets through.
+        y.seen(1, 1, 4);
+        y.seen(1, 2, 1);
+        due("28 one width is left", y.was(0), 1 << 6);
+        due("28 one is alike in all hours", y.ask(0), 0);
+        askCountsTheEnds();
+    }
+
+    private static void askCountsTheEnds() {
+        // In hour 1 house 0 works, and house 1 gets what its pipe still lets through: nothing, if it is 1 or 2 wide.
+        TownBagpipes x = town(".a9sw;ab9r", "");
+        x.seen(1, 1, 0);
+        due("28 the two narrowest", x.was(0), (1 << 1) + (1 << 2));
+        due("28 part when it works", x.ask(0), 1);
+        // All run, so 8 or 9 go out in an hour, and of 20 there are 4 or 2 left for hour 2.
+        TownBagpipes y = town(".a9r;ab9r;ac9r", NOBODY);
+        y.set(0, 20);
+        y.seen(0, 1, 4);
+        due("28 the two widest", y.was(0), (1 << 8) + (1 << 9));
+        due("28 part when the bag is nearly empty", y.ask(0), 2);
     }
 
     // 29
@@ -645,6 +679,16 @@ public final class PromisesTest {
         due("29 leaks are as before", x.bag(0, 1), 1 + 2 + 3);
         due("29 short anyway", town(".a1w", "").moth(3, 0, 0), 0);
         due("29 0 by 1", town(".a1w", "").moth(3, 0, 1), 1);
+        TownBagpipes y = town(".a9s", NOBODY);
+        y.set(0, 40);
+        y.pinch(0, 0);
+        due("29 short in the first hour alone", y.moth(3, 0, 0), 0);
+        y.back(1);
+        // Of two leaks of 1 for an hour each, one is borne, both are not: 1 less 3 of 16 squared.
+        y.set(0, 41);
+        y.leak(0, 1, 1);
+        y.leak(1, 1, 2);
+        fraction(y, 3, 0, 247, 256);
     }
 
     private static void fraction(TownBagpipes x, int c, int house, long above, long below) {
@@ -716,6 +760,9 @@ public final class PromisesTest {
         x.put(3, 2, 59, 7);
         due("31 a new one", x.sheet(3, 2, 60), 60);
         due("31 is of zeros", x.get(3, 2, 59), 0);
+        x.put(3, 2, 0, 7);
+        x.sheet(3, 2, 1);
+        due("31 from the first on", x.get(3, 2, 0), 0);
         due("31 of another form", x.sheet(3, 1, 2), 2);
         due("31 that form", x.get(3, 1, 1), 0);
     }
@@ -814,6 +861,7 @@ public final class PromisesTest {
         x.sheet(0, 0, 5);
         due("36 as many as there are", x.write(0, 0), 5);
         due("36 item 2", x.get(0, 0, 2), 4);
+        due("36 item 0", x.get(0, 0, 0), 1);
         due("36 item 4", x.get(0, 0, 4), 2);
         items(x, 1, 2, new int[60]);
         x.put(1, 2, 40, 77);
@@ -850,6 +898,8 @@ public final class PromisesTest {
         x.seen(1, 2, 1);
         due("38 a full town", x.digest(), digestByCalls(x));
         due("38 a new one", new TownBagpipes().digest(), digestByCalls(new TownBagpipes()));
+        TownBagpipes faulty = town(".a5swr;", "31x");
+        due("38 a faulty one", faulty.digest(), digestByCalls(faulty));
         long before = x.digest();
         x.sheet(0, 0, -1);
         due("38 findings are not in it", x.digest(), before);
