@@ -182,9 +182,10 @@ public final class TownBagpipes {
         if (sheets.isLost(s)) {
             return found(NULL);
         }
-        town.pinches = 0;
+        // No sentence undoes the PINCHES that are there, so these come behind them.
+        int before = town.pinches;
         int whole = sheets.size[s] / 2;
-        for (int i = 0; i < whole && i < PINCHES; i++) {
+        for (int i = 0; i < whole && town.pinches < PINCHES; i++) {
             int hour = sheets.item(s, 2 * i);
             int house = sheets.item(s, 2 * i + 1);
             if (!mayPinch(hour, house)) {
@@ -193,7 +194,7 @@ public final class TownBagpipes {
             town.addPinch(hour, house);
         }
         changed();
-        return town.pinches;
+        return town.pinches - before;
     }
 
     // ---- hours

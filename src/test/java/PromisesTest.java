@@ -296,23 +296,54 @@ public final class PromisesTest {
         x.pinch(5, 0);
         items(x, 0, 2, 0, 0, 39, 7, 3);
         due("12 whole ones", x.read(0), 2);
-        due("12 those of the sheet alone", x.count(5), 2);
-        due("12 not the earlier one", x.got(5, 0, 0), 2);
+        due("12 behind the one that is there", x.count(5), 3);
+        due("12 the earlier one stays", x.got(5, 0, 0), 0);
         due("12 pinched", x.got(0, 0, 0), 0);
-        items(x, 0, 2, 2, 0);
-        due("12 read anew", x.read(0), 1);
+        due("12 the last item of an odd number is none", x.got(3, 0, 0), 2);
+        due("12 the sheet's last is the last", x.back(1), 2);
+        due("12 then its first", x.back(1), 1);
         due("12 no longer pinched", x.got(0, 0, 0), 2);
-        items(x, 1, 1, 1, 0, 40, 0, 2, 0);
-        due("12 as long as each may be: hour", x.read(1), 1);
-        items(x, 1, 0, 1, 0, 2, 0, 3, 8, 4, 0);
-        due("12 as long as each may be: house", x.read(1), 2);
-        items(x, 1, 0, -1, 0, 2, 0);
-        due("12 none may be", x.read(1), 0);
-        items(x, 2, 2, 0, 0, 1, 0, 2, 0, 3, 0, 4, 0, 5, 0, 6, 0);
-        due("12 six at most", x.read(2), 6);
+        due("12 the earlier one is left", x.got(5, 0, 0), 0);
         x.sheet(3, 0, 1);
         due("12 one item is none", x.read(3), 0);
-        due("12 none are left", x.count(5), 0);
+        x.sheet(3, 0, 0);
+        due("12 no item is none", x.read(3), 0);
+        due("12 nothing is undone by it", x.count(5), 1);
+        readAsLongAsEachMayBe();
+        readUpToSix();
+    }
+
+    private static void readAsLongAsEachMayBe() {
+        TownBagpipes x = town(".a4w", "");
+        items(x, 1, 1, 1, 0, 40, 0, 2, 0);
+        due("12 as long as each may be: hour", x.read(1), 1);
+        due("12 none behind it", x.got(2, 0, 0), 2);
+        items(x, 1, 0, 1, 0, 2, 0, 3, 8, 4, 0);
+        due("12 as long as each may be: house", x.read(1), 2);
+        due("12 three in all", x.count(5), 3);
+        due("12 none behind it either", x.got(4, 0, 0), 2);
+        items(x, 1, 0, -1, 0, 2, 0);
+        due("12 none may be: hour", x.read(1), 0);
+        items(x, 1, 2, 2, -1, 2, 0);
+        due("12 none may be: house", x.read(1), 0);
+        due("12 those there stay", x.count(5), 3);
+    }
+
+    private static void readUpToSix() {
+        TownBagpipes x = town(".a4w", "");
+        items(x, 2, 2, 0, 0, 1, 0, 2, 0, 3, 0, 4, 0, 5, 0, 6, 0);
+        due("12 six at most", x.read(2), 6);
+        due("12 six are there", x.count(5), 6);
+        due("12 the seventh is not", x.got(6, 0, 0), 2);
+        due("12 none more may be", x.read(2), 0);
+        due("12 the six stay", x.count(5), 6);
+        x.back(1);
+        x.back(1);
+        items(x, 0, 0, 10, 0, 11, 0, 12, 0);
+        due("12 only two more may be", x.read(0), 2);
+        due("12 the second of them", x.got(11, 0, 0), 0);
+        due("12 not the third", x.got(12, 0, 0), 2);
+        due("12 no finding", x.count(8), 0);
     }
 
     private static void items(TownBagpipes x, int s, int form, int... values) {

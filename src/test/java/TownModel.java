@@ -226,11 +226,12 @@ final class TownModel {
     int read(int s) {
         if (s < 0 || s > 3) return BAD;
         if (sheets[s] == null) return find(1);
-        pinches = new ArrayList<>();
+        int came = 0;
         for (int i = 0; i + 1 < length(s); i += 2) {
             if (pinch((int) item(s, i), (int) item(s, i + 1)) < 0) break;
+            came++;
         }
-        return pinches.size();
+        return came;
     }
 
     // ---- hours
