@@ -927,46 +927,13 @@ public final class PromisesTest {
         x.pinch(1, 2);
         x.pinch(7, 0);
         x.seen(1, 2, 1);
-        due("38 a full town", x.digest(), digestByCalls(x));
-        due("38 a new one", new TownBagpipes().digest(), digestByCalls(new TownBagpipes()));
+        due("38 a full town", x.digest(), Checks.digestByCalls(x));
+        due("38 a new one", new TownBagpipes().digest(), Checks.digestByCalls(new TownBagpipes()));
         TownBagpipes faulty = town(".a5swr;", "31x");
-        due("38 a faulty one", faulty.digest(), digestByCalls(faulty));
+        due("38 a faulty one", faulty.digest(), Checks.digestByCalls(faulty));
         long before = x.digest();
         x.sheet(0, 0, -1);
         due("38 findings are not in it", x.digest(), before);
-    }
-
-    private static long digestByCalls(TownBagpipes x) {
-        java.util.List<Long> all = new java.util.ArrayList<>();
-        for (int what = 0; what <= 7; what++) all.add((long) x.count(what));
-        for (int text = 0; text <= 1; text++) all.add((long) x.fault(text));
-        for (int hour = 0; hour < 40; hour++) {
-            all.add((long) x.elbows(hour));
-            for (int what = 0; what <= 3; what++) all.add((long) x.bag(hour, what));
-        }
-        for (int h = 0; h < x.count(0); h++) {
-            for (int what = 0; what <= 6; what++) all.add((long) x.house(h, what));
-            for (int hour : new int[] {0, 7, 20, 39}) {
-                for (int what = 0; what <= 2; what++) all.add((long) x.got(hour, h, what));
-            }
-            for (int what = 0; what <= 1; what++) all.add((long) x.held(h, what));
-            for (int what = 0; what <= 1; what++) all.add((long) x.shut(h, what));
-            all.add((long) x.was(h));
-            all.add((long) x.ask(h));
-            for (int what = 0; what <= 1; what++) all.add(x.moth(5, h, what));
-        }
-        all.add((long) x.first());
-        all.add((long) x.quiet());
-        all.add((long) x.well());
-        for (int what = 0; what <= 1; what++) all.add((long) x.elbow(what));
-        all.add((long) x.least());
-        for (int what = 0; what <= 1; what++) all.add((long) x.patch(what));
-        all.add((long) x.never());
-        for (int what = 0; what <= 2; what++) all.add((long) x.starts(what));
-        for (int what = 0; what <= 1; what++) all.add((long) x.year(7, 25, what));
-        long h = 17;
-        for (long one : all) h = 31 * h + one;
-        return h;
     }
 
     private static void refusalsChangeNothing() {
