@@ -7,7 +7,9 @@ import java.nio.file.Path;
 import java.util.ArrayList;
 import java.util.Arrays;
 import java.util.List;
+import java.util.Map;
 import java.util.Set;
+import java.util.TreeMap;
 import java.util.TreeSet;
 import java.util.regex.Matcher;
 import java.util.regex.Pattern;
@@ -30,6 +32,7 @@ public final class LanguageTest {
         words(source);
         newOnlyInFields(source);
         methodLengths(source);
+        callDepth(source);
         C.end();
     }
 
@@ -127,5 +130,29 @@ public final class LanguageTest {
             }
         }
         C.due("methods were found", seen > 38 ? 1 : 0, 1);
+    }
+
+    /** Calls go at most eight deep, and none comes back to itself; a method is known by its name, so no two may share one. */
+    private static void callDepth(String source) {
+        Map<String, String> bodies = new TreeMap<>();
+        Matcher m = Pattern.compile("(?ms)^( {4}| {8})(?:public|private)[^=;{]*?(\\w+)\\([^)]*\\) \\{\n(.*?)^\\1\\}").matcher(source);
+        while (m.find()) {
+            if (bodies.put(m.group(2), m.group(3)) != null) C.fail("two methods bear the name " + m.group(2));
+        }
+        C.due("bodies were found", bodies.size() > 38 ? 1 : 0, 1);
+        for (String name : bodies.keySet()) {
+            int deep = depth(bodies, name, 1);
+            if (deep > 8) C.fail(name + " goes " + deep + " calls deep, or comes back to itself");
+        }
+    }
+
+    private static int depth(Map<String, String> bodies, String name, int level) {
+        int deepest = level;
+        Matcher m = Pattern.compile("(?<!new )\\b(\\w+)\\(").matcher(bodies.get(name));
+        // Nine levels are too deep already, so a circle is not followed further.
+        while (level < 9 && m.find()) {
+            if (bodies.containsKey(m.group(1))) deepest = Math.max(deepest, depth(bodies, m.group(1), level + 1));
+        }
+        return deepest;
     }
 }
